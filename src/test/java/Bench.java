@@ -42,7 +42,7 @@ final class Bench {
     /** Makes a call count, so that no test leans on answers that are free. */
     private int used(int answer) {
         calls++;
-        if (calls > CALLS) {
+        if (calls == CALLS + 1) {
             note("calls on one object", calls, CALLS);
         }
         return answer;
