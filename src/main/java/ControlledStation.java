@@ -176,7 +176,10 @@ public final class ControlledStation {
             if (got == Receiver.WRONG) {
                 shut(BY_BYTES);
             } else if (got == Receiver.WHOLE) {
-                frameCame();
+                if (acceptFrame()) {
+                    takeRest(receiver.rest);
+                }
+                behindFrame();
                 taken += link == CLOSED ? 0 : 1;
             }
         }
@@ -387,20 +390,22 @@ public final class ControlledStation {
         }
     }
 
-    private void frameCame() {
+    /** Whether the FRAME has a rest that is to be taken. */
+    private boolean acceptFrame() {
         latestAt = now;
         int first = receiver.control & 255;
         if ((first & 1) == 0) {
-            if (acceptData()) {
-                takeRest(receiver.rest);
-            }
-        } else if (first == S_CONTROL) {
-            if (!acknowledge(receiver.ack())) {
-                shut(BY_NUMBERS);
-            }
-        } else {
-            controlCame(first);
+            return acceptData();
         }
+        if (first != S_CONTROL) {
+            controlCame(first);
+        } else if (!acknowledge(receiver.ack())) {
+            shut(BY_NUMBERS);
+        }
+        return false;
+    }
+
+    private void behindFrame() {
         if (link == STOPPING && sent.unacknowledged == 0) {
             link = STOPPED;
             sendFrame(STOP_ANSWER, null);
