@@ -306,6 +306,12 @@ public final class EventTest {
         b.open(1);
         b.u(Bench.START);
         b.outIs(Bench.frameOf(Bench.START_ANSWER), event(0, 11, 5, 0, 0, 4, 0, 0));
+        b.s(1);
+        b.close(1);
+        b.count(8, 0);
+        b.open(1);
+        b.u(Bench.START);
+        b.outIs(Bench.frameOf(Bench.START_ANSWER));
     }
 
     private static void answersGoAheadOfEvents() {

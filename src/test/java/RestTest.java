@@ -18,6 +18,7 @@ public final class RestTest {
         interrogationDenied();
         interrogationWithT();
         counters();
+        countersOnly();
         freezesInObjects();
         countersDenied();
         countersWithT();
@@ -310,6 +311,23 @@ public final class RestTest {
         b.count(11, 2);
         b.told(0, 4, 0);
         b.told(0, 6, -2);
+    }
+
+    private static void countersOnly() {
+        Bench b = new Bench("101 leaves other POINTS alone");
+        b.point(4, 9, 0, false, 0);
+        b.change(0, 7, 1, 1);
+        b.open(1);
+        b.u(Bench.START);
+        b.skipOut();
+        b.s(1);
+        for (int order = 0; order < 4; order++) {
+            counterOrder(b, order << 6 | 5);
+            b.told(0, 4, 7);
+            b.told(0, 5, 1);
+            b.told(0, 6, 0);
+        }
+        b.count(11, 2);
     }
 
     private static void freezesInObjects() {
