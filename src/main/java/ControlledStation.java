@@ -5,6 +5,8 @@
 public final class ControlledStation {
     public static final int NONE = -1, BAD = -1, STATE = -2, FULL = -3;
 
+    private static final int NOTHING_TOLD = 0;
+
     private static final int CLOSED = 0, STOPPED = 1, STARTED = 2, STOPPING = 3;
 
     private static final int BY_CALL = 1, BY_BYTES = 2, BY_NUMBERS = 3, BY_TIME = 4;
@@ -216,10 +218,11 @@ public final class ControlledStation {
         return sending.length;
     }
 
+    // The one call that refuses by 0 ("0 also: BAD"): a VALUE may well be -1.
     public int told(int point, int what) {
         Point asked = points.at(point);
         if (asked == null) {
-            return BAD;
+            return NOTHING_TOLD;
         }
         switch (what) {
             case 0: return asked.sort;
@@ -229,7 +232,7 @@ public final class ControlledStation {
             case 4: return asked.value;
             case 5: return asked.quality;
             case 6: return asked.frozen;
-            default: return BAD;
+            default: return NOTHING_TOLD;
         }
     }
 

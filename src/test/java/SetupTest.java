@@ -9,7 +9,8 @@ public final class SetupTest {
         commands();
         fullCommands();
         addressesAreAllUnlike();
-        toldAndOrderedRefuse();
+        toldRefusesByZero();
+        orderedAndClockRefuse();
         Bench.finish();
     }
 
@@ -21,7 +22,7 @@ public final class SetupTest {
         b.count(14, -1);
         b.count(-1, -1);
         b.clockIs(0, 0, 0, 1, 1, 0, 0);
-        b.told(0, 0, -1);
+        b.told(0, 0, 0);
         b.ordered(0, 0, -1);
         b.out(0, -1);
         b.take(0, 0);
@@ -89,7 +90,7 @@ public final class SetupTest {
         b.point(7, 101, 0, false, -1);
         b.count(12, 24);
         b.told(23, 1, 77);
-        b.told(24, 1, -1);
+        b.told(24, 1, 0);
     }
 
     private static void commands() {
@@ -139,14 +140,36 @@ public final class SetupTest {
         b.point(0, 11, 0, false, -1);
     }
 
-    private static void toldAndOrderedRefuse() {
-        Bench b = new Bench("told and ordered");
+    /** Of a POINT whose numbers are all other than 0 and -1, so that a wrong answer shows. */
+    private static void toldRefusesByZero() {
+        Bench b = new Bench("told refuses");
+        int[] edges = {Integer.MIN_VALUE, -2, -1, 1, 23, 24, Integer.MAX_VALUE};
+        for (int point : edges) {
+            b.told(point, 4, 0);
+        }
+        b.point(2, 10, 3, true, 0);
+        b.change(0, 7, 17, 1);
+        for (int point : edges) {
+            for (int what = -1; what <= 7; what++) {
+                b.told(point, what, 0);
+            }
+        }
+        for (int what : new int[] {Integer.MIN_VALUE, -2, -1, 7, 8, Integer.MAX_VALUE}) {
+            b.told(0, what, 0);
+        }
+        int[] want = {2, 10, 3, 1, 7, 17, 0};
+        for (int what = 0; what < want.length; what++) {
+            b.told(0, what, want[what]);
+        }
+        b.change(0, -1, 0, 1);
+        b.told(0, 4, -1);
+        b.count(12, 1);
+    }
+
+    private static void orderedAndClockRefuse() {
+        Bench b = new Bench("ordered and clock refuse");
         b.point(0, 10, 0, false, 0);
         b.command(0, 11, 0, true, 0);
-        b.told(0, -1, -1);
-        b.told(0, 7, -1);
-        b.told(-1, 0, -1);
-        b.told(1, 0, -1);
         b.ordered(0, 0, 0);
         b.ordered(0, 1, 0);
         b.ordered(0, 2, 0);
