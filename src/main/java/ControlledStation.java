@@ -584,10 +584,9 @@ public final class ControlledStation {
             answerSame(CONFIRMED | DENIED);
             return;
         }
-        if (!isTrial) {
+        if (answerSame(CONFIRMED) && !isTrial) {
             selection.begin(command, data, receiver.originator(), settings[S]);
         }
-        answerSame(CONFIRMED);
     }
 
     /** Whether the COMMAND was SELECTED just so, which ends in any case. */
@@ -603,7 +602,9 @@ public final class ControlledStation {
     }
 
     private void carryOut(Command command, int data, boolean isTrial) {
-        answerSame(CONFIRMED);
+        if (!answerSame(CONFIRMED)) {
+            return;
+        }
         if (!isTrial) {
             command.carriedOut++;
             Point target = command.target;
@@ -638,13 +639,12 @@ public final class ControlledStation {
     private void countersOrderCame(int asked) {
         if ((asked & 63) != COUNTERS_ASKED) {
             answerSame(CONFIRMED | DENIED);
-            return;
+        } else if (answerSame(CONFIRMED)) {
+            if (!receiver.isTrial()) {
+                orderCounters(asked >> 6);
+            }
+            answerSame(ENDED);
         }
-        answerSame(CONFIRMED);
-        if (!receiver.isTrial()) {
-            orderCounters(asked >> 6);
-        }
-        answerSame(ENDED);
     }
 
     private void orderCounters(int order) {
@@ -662,17 +662,19 @@ public final class ControlledStation {
     }
 
     private void clockOrderCame(long time) {
-        boolean isTime = Calendar.isTime(time);
-        if (isTime && !receiver.isTrial()) {
+        if (!Calendar.isTime(time)) {
+            answerSame(CONFIRMED | DENIED);
+        } else if (answerSame(CONFIRMED) && !receiver.isTrial()) {
             calendar.become(time);
         }
-        answerSame(isTime ? CONFIRMED : CONFIRMED | DENIED);
     }
 
-    private void answerSame(int cause) {
+    /** Whether there was room for it; if not, nothing that is told behind it may be done. */
+    private boolean answerSame(int cause) {
         Message answer = answers.next();
         answer.copy(receiver.rest);
         answer.replace(2, cause | receiver.rest.at(2) & T);
+        return !answers.overflown;
     }
 
     private void answerObject(Point shown, int cause) {
@@ -1001,7 +1003,7 @@ public final class ControlledStation {
         private final Message spare = new Message();
         private int start;
         int size;
-        // The FRAME that asks for too many is still taken to its end; only then THE LINK CLOSES.
+        // One had no room: whoever asked for it does nothing more, and THE LINK CLOSES.
         boolean overflown;
 
         void clear() {

@@ -1,3 +1,5 @@
+import java.util.Arrays;
+
 /** Promise 8, part 3: the rests of I FRAMES but for COMMANDS; and promise 15's ANSWERS and PASSED BY. */
 public final class RestTest {
     private static final int DENIED = 64, T = 128;
@@ -30,6 +32,11 @@ public final class RestTest {
         sixtyAnswers();
         sixtyFirstAnswerOfInterrogation();
         sixtyFirstAnswerOfCommand();
+        sixtyFirstAnswerOfCommandWithoutPoint();
+        sixtyFirstAnswerOfSelection();
+        sixtyFirstAnswerOfClock();
+        sixtyFirstAnswerOfCounters();
+        sixtyFirstAnswerOfCountersRead();
         answersGoWithTheLink();
         answersInOrder();
         Bench.finish();
@@ -450,8 +457,13 @@ public final class RestTest {
         b.set(1, 1, 12);
         b.point(0, 5, 1, false, 0);
         b.point(1, 6, 1, false, 1);
+        b.point(4, 13, 2, false, 2);
+        b.point(6, 12, 1, false, 3);
         b.command(0, 7, 0, false, 0);
-        b.command(0, 8, 0, true, 1);
+        b.command(1, 9, 1, false, 1);
+        b.command(2, 10, 2, false, 2);
+        b.command(0, 11, -1, false, 3);
+        b.command(0, 8, 0, true, 4);
         b.started();
         for (int i = 0; i <= answers; i++) {
             b.i(102, 1, 5, i, 1, 0, 5, 0, 0);
@@ -487,19 +499,85 @@ public final class RestTest {
         c.outIs(Bench.data(0, 1, 104, 1, 7, 3, 1, 0, 0, 0, 0, 170, 85));
     }
 
+    /** The 7 with no room: nothing is carried out. A later one: what is told ahead of it stands. */
     private static void sixtyFirstAnswerOfCommand() {
-        for (int room = 0; room < 3; room++) {
-            Bench b = waiting("a COMMAND with room for " + room, 60 - room);
-            b.frame(0, 45, 1, 6, 9, 1, 0, 7, 0, 0, 1);
-            b.closedBy(7);
-            b.count(7, 0);
-            b.ordered(0, 2, 1);
-            b.told(0, 4, 1);
+        int[][] orders = {{0, 45, 7, 1}, {1, 46, 9, 2}, {2, 49, 10, 44, 1, 0}};
+        int[] values = {1, 2, 300};
+        for (int[] order : orders) {
+            int[] head = {order[1], 1, 6, 9, 1, 0, order[2], 0, 0};
+            int[] rest = Bench.join(head, Arrays.copyOfRange(order, 3, order.length));
+            for (int room = 0; room <= 3; room++) {
+                Bench b = waiting("TYPE " + order[1] + " with room for " + room, 60 - room);
+                b.frame(room == 3 ? 1 : 0, rest);
+                b.count(0, room == 3 ? 2 : 0);
+                b.count(1, room == 3 ? 0 : 7);
+                b.count(7, room == 3 ? 60 : 0);
+                b.ordered(order[0], 2, room == 0 ? 0 : 1);
+                b.told(order[0], 4, room == 0 ? 0 : values[order[0]]);
+            }
         }
+    }
+
+    private static void sixtyFirstAnswerOfCommandWithoutPoint() {
+        for (int room = 0; room <= 1; room++) {
+            Bench b = waiting("a COMMAND of no POINT with room for " + room, 60 - room);
+            b.frame(0, 45, 1, 6, 9, 1, 0, 11, 0, 0, 1);
+            b.closedBy(7);
+            b.ordered(3, 2, room);
+        }
+    }
+
+    private static void sixtyFirstAnswerOfSelection() {
         Bench b = waiting("a SELECTION with no room", 60);
         b.frame(0, 45, 1, 6, 9, 1, 0, 8, 0, 0, 129);
         b.closedBy(7);
-        b.ordered(1, 0, 0);
+        b.ordered(4, 0, 0);
+        b.ordered(4, 1, 0);
+        Bench c = waiting("a SELECTED COMMAND with no room", 59);
+        c.i(45, 1, 6, 9, 1, 0, 8, 0, 0, 129);
+        c.ordered(4, 0, 1);
+        c.frame(0, 45, 1, 6, 9, 1, 0, 8, 0, 0, 1);
+        c.closedBy(7);
+        c.ordered(4, 0, 0);
+        c.ordered(4, 2, 0);
+        c.told(0, 4, 0);
+    }
+
+    private static void sixtyFirstAnswerOfClock() {
+        int[] order = {103, 1, 6, 9, 1, 0, 0, 0, 0, 100, 0, 5, 6, 7, 8, 9};
+        Bench b = waiting("a TIME with no room", 60);
+        b.frame(0, order);
+        b.closedBy(7);
+        b.clockIs(0, 0, 0, 1, 1, 0, 0);
+        Bench c = waiting("a TIME with room for one", 59);
+        c.i(order);
+        c.count(7, 60);
+        c.clockIs(100, 5, 6, 7, 8, 9, 1);
+    }
+
+    private static void sixtyFirstAnswerOfCounters() {
+        for (int asked = 1; asked <= 3; asked++) {
+            for (int room = 0; room <= 2; room++) {
+                Bench b = waiting("COUNTERS by " + asked + " with room for " + room, 60 - room);
+                b.change(3, 77, 0, 1);
+                b.frame(room == 2 ? 1 : 0, 101, 1, 6, 9, 1, 0, 0, 0, 0, asked << 6 | 5);
+                b.count(0, room == 2 ? 2 : 0);
+                b.count(1, room == 2 ? 0 : 7);
+                b.count(11, room == 0 || asked == 3 ? 0 : 1);
+                b.told(3, 6, room == 0 || asked == 3 ? 0 : 77);
+                b.told(3, 4, room == 0 || asked == 1 ? 77 : 0);
+            }
+        }
+    }
+
+    private static void sixtyFirstAnswerOfCountersRead() {
+        for (int room = 0; room <= 3; room++) {
+            Bench b = waiting("COUNTERS read with room for " + room, 60 - room);
+            b.frame(room == 3 ? 1 : 0, 101, 1, 6, 9, 1, 0, 0, 0, 0, 5);
+            b.count(0, room == 3 ? 2 : 0);
+            b.count(1, room == 3 ? 0 : 7);
+            b.count(7, room == 3 ? 60 : 0);
+        }
     }
 
     private static void answersGoWithTheLink() {
