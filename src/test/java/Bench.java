@@ -11,12 +11,23 @@ final class Bench {
 
     final ControlledStation station = new ControlledStation();
     private final String name;
+    private final int mostCalls;
     private int calls = 0;
     private int toSend = 0;
     private int ack = 0;
 
     Bench(String name) {
+        this(name, CALLS);
+    }
+
+    private Bench(String name, int mostCalls) {
         this.name = name;
+        this.mostCalls = mostCalls;
+    }
+
+    /** For what no run of 512 calls can reach; the document leaves the answers there free. */
+    static Bench beyond512(String name) {
+        return new Bench(name, Integer.MAX_VALUE);
     }
 
     /** Ends the test program: exit code 1 if an answer was wrong. */
@@ -35,6 +46,24 @@ final class Bench {
         }
     }
 
+    /** A station with POINT 0 (SINGLE, ADDRESS 5) whose LINK is so, and nothing in THE OUT. */
+    static Bench inLink(String name, int link) {
+        Bench b = new Bench(name + ", THE LINK " + link);
+        b.point(0, 5, 0, false, 0);
+        if (link == 1) {
+            b.open(1);
+        } else if (link != 0) {
+            b.started();
+        }
+        if (link == 3) {
+            b.change(0, 1, 0, 1);
+            b.u(STOP);
+        }
+        b.skipOut();
+        b.count(0, link);
+        return b;
+    }
+
     void due(String what, boolean holds) {
         note(what, holds, true);
     }
@@ -42,8 +71,8 @@ final class Bench {
     /** Makes a call count, so that no test leans on answers that are free. */
     private int used(int answer) {
         calls++;
-        if (calls == CALLS + 1) {
-            note("calls on one object", calls, CALLS);
+        if (calls > mostCalls) {
+            note("calls on one object", calls, mostCalls);
         }
         return answer;
     }
@@ -112,13 +141,25 @@ final class Bench {
     }
 
     void count(int what, int want) {
-        note("count(" + what + ")", used(station.count(what)), want);
+        note("count(" + what + ")", read(what), want);
+    }
+
+    int read(int what) {
+        return used(station.count(what));
     }
 
     /** THE LINK CLOSED, by this reason. */
     void closedBy(int reason) {
         count(0, 0);
         count(1, reason);
+    }
+
+    /** It is CLOSED by this reason, and all that goes with it went. */
+    void forgotBy(int reason) {
+        closedBy(reason);
+        for (int what : new int[] {4, 6, 7, 9}) {
+            count(what, 0);
+        }
     }
 
     /** Bytes, eight a call: how many FRAMES must have been taken by them. */
@@ -168,6 +209,25 @@ final class Bench {
         return Arrays.stream(parts).flatMapToInt(Arrays::stream).toArray();
     }
 
+    /** Sends a rest, and sees that the one ANSWER is the same but for its CAUSE. */
+    void same(int cause, int... rest) {
+        int sent = read(3);
+        i(rest);
+        int[] answer = rest.clone();
+        answer[2] = cause;
+        outIs(data(sent, toSend, answer));
+        s(sent + 1);
+    }
+
+    void passedBy(int... rest) {
+        int before = read(10);
+        int sent = read(3);
+        i(rest);
+        count(10, before + 1);
+        count(7, 0);
+        count(3, sent);
+    }
+
     void started() {
         open(1);
         u(START);
@@ -186,7 +246,7 @@ final class Bench {
     void outIs(int[]... frames) {
         int[] want = join(frames);
         List<Integer> got = new ArrayList<>();
-        int length = used(station.count(2));
+        int length = read(2);
         for (int i = 0; i < length; i++) {
             got.add(used(station.out(i)));
         }
@@ -196,6 +256,6 @@ final class Bench {
 
     /** Empties THE OUT without a look. */
     void skipOut() {
-        take(used(station.count(2)), 0);
+        take(read(2), 0);
     }
 }

@@ -22,6 +22,14 @@ public final class CommandTest {
         carryOutWithT();
         deactivateWithT();
         selectAnewBehindTheEnd();
+        everyByteOfSingle();
+        everyByteOfDouble();
+        everyByteOfSet();
+        everyByteSelected();
+        everyOriginator();
+        valuesOfSet();
+        selectionThatIsOverAsItIsCarriedOut();
+        howOftenItWasCarriedOut();
         Bench.finish();
     }
 
@@ -309,5 +317,145 @@ public final class CommandTest {
         b.tick(1, 2);
         b.ordered(1, 1, 1);
         b.ordered(0, 1, 0);
+    }
+
+    /** 1 is the state, 2 must be 0, 128 SELECTS, which this one must not be; the others are of no matter. */
+    private static void everyByteOfSingle() {
+        for (int data = 0; data < 256; data++) {
+            Bench b = station("45 by " + data);
+            int[] rest = rest(45, 6, 1, 20, data);
+            boolean fits = (data & 2) == 0 && data < 128;
+            if (fits) {
+                carriedOut(b, rest, rest(1, 11, 1, 10, data & 1));
+            } else {
+                denied(b, rest);
+            }
+            b.ordered(0, 2, fits ? 1 : 0);
+            b.told(0, 4, fits ? data & 1 : 0);
+        }
+    }
+
+    private static void everyByteOfDouble() {
+        for (int data = 0; data < 256; data++) {
+            Bench b = station("46 by " + data);
+            int[] rest = rest(46, 6, 1, 21, data);
+            int state = data & 3;
+            boolean fits = (state == 1 || state == 2) && data < 128;
+            if (fits) {
+                carriedOut(b, rest, rest(3, 11, 1, 11, state));
+            } else {
+                denied(b, rest);
+            }
+            b.ordered(1, 2, fits ? 1 : 0);
+            b.told(1, 4, fits ? state : 0);
+        }
+    }
+
+    private static void everyByteOfSet() {
+        for (int last = 0; last < 256; last++) {
+            Bench b = station("49 by " + last);
+            int[] rest = rest(49, 6, 1, 22, 2, 3, last);
+            if (last < 128) {
+                carriedOut(b, rest, rest(11, 11, 1, 12, 2, 3, 0));
+            } else {
+                denied(b, rest);
+            }
+            b.ordered(2, 2, last < 128 ? 1 : 0);
+            b.told(2, 4, last < 128 ? 770 : 0);
+        }
+    }
+
+    /** SELECTED by every byte that can be, then carried out by that byte alone, but for 128. */
+    private static void everyByteSelected() {
+        for (int data = 0; data < 128; data++) {
+            for (int bit = 0; bit < 128; bit = bit == 0 ? 1 : bit * 2) {
+                int other = data ^ bit;
+                selectedAndOrdered(3, 45, 30, (data & 2) == 0, (other & 2) == 0, data, other);
+                selectedAndOrdered(4, 46, 31, isDouble(data), isDouble(other), data, other);
+            }
+        }
+    }
+
+    private static boolean isDouble(int data) {
+        return (data & 3) == 1 || (data & 3) == 2;
+    }
+
+    private static void selectedAndOrdered(int command, int type, int address, boolean fits, boolean otherFits,
+            int data, int other) {
+        Bench b = station("SELECTED by " + data + ", ordered by " + other);
+        if (!fits) {
+            denied(b, rest(type, 6, 5, address, data | SELECT));
+            b.ordered(command, 0, 0);
+            return;
+        }
+        selected(b, rest(type, 6, 5, address, data | SELECT));
+        b.ordered(command, 0, 1);
+        if (data != other) {
+            denied(b, rest(type, 6, 5, address, other));
+            b.ordered(command, 0, otherFits ? 0 : 1);
+        } else {
+            b.i(rest(type, 6, 5, address, data));
+            b.count(3, 4);
+            b.ordered(command, 0, 0);
+        }
+        b.ordered(command, 2, data == other ? 1 : 0);
+    }
+
+    private static void everyOriginator() {
+        for (int originator = 0; originator < 256; originator++) {
+            Bench b = station("ORIGINATOR " + originator);
+            selected(b, rest(45, 6, originator, 30, 1 | SELECT));
+            carriedOut(b, rest(45, 6, originator, 30, 1), rest(1, 11, originator, 10, 1));
+            for (int bit = 1; bit < 256; bit *= 2) {
+                Bench c = station("ORIGINATOR other than " + originator);
+                selected(c, rest(45, 6, originator, 30, 1 | SELECT));
+                denied(c, rest(45, 6, originator ^ bit, 30, 1));
+                c.ordered(3, 0, 0);
+            }
+        }
+    }
+
+    private static void valuesOfSet() {
+        for (int value : new int[] {-32768, -32767, -1, 0, 1, 255, 256, 32767}) {
+            Bench b = station("49 sets " + value);
+            int low = value & 255;
+            int high = value >> 8 & 255;
+            carriedOut(b, rest(49, 6, 1, 22, low, high, 0), rest(11, 11, 1, 12, low, high, 0));
+            b.told(2, 4, value);
+        }
+    }
+
+    /** In the last TICK of S it still is SELECTED; a TICK later it is denied. */
+    private static void selectionThatIsOverAsItIsCarriedOut() {
+        for (int ticks = 4; ticks <= 5; ticks++) {
+            Bench b = new Bench("carried out behind " + ticks + " of 5 TICKS");
+            b.set(6, 5, 300);
+            b.command(0, 30, -1, true, 0);
+            b.started();
+            selected(b, rest(45, 6, 5, 30, 1 | SELECT));
+            b.tick(ticks, 2);
+            int[] rest = rest(45, 6, 5, 30, 1);
+            if (ticks == 4) {
+                order(b, rest, with(rest, 7), with(rest, 10));
+            } else {
+                denied(b, rest);
+            }
+            b.ordered(0, 2, ticks == 4 ? 1 : 0);
+            b.ordered(0, 0, 0);
+        }
+    }
+
+    private static void howOftenItWasCarriedOut() {
+        Bench b = station("how often");
+        for (int times = 1; times <= 9; times++) {
+            b.i(rest(45, 6, 5, 20, times % 2));
+            b.s(3 * times);
+            b.ordered(0, 2, times);
+            b.ordered(3, 2, 0);
+        }
+        b.close(1);
+        b.ordered(0, 2, 9);
+        b.open(1);
+        b.ordered(0, 2, 9);
     }
 }

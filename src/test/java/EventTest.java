@@ -1,11 +1,6 @@
 /** Promise 5, and EVENTS: what they carry, their order, and a break. */
 public final class EventTest {
-    private static final int NAN = 0x7F800001, INFINITY = 0x7F800000;
-
     public static void main(String[] args) {
-        changeRefuses();
-        valuesOfEachSort();
-        qualitiesOfEachSort();
         changeAnswers();
         objectsOfEachSort();
         timedObjectsOfEachSort();
@@ -28,60 +23,6 @@ public final class EventTest {
             b.point(sort, 0x030201 + sort, 0, timed, sort);
         }
         return b;
-    }
-
-    private static void changeRefuses() {
-        Bench b = ofEachSort("change refuses", false);
-        b.change(-1, 0, 0, -1);
-        b.change(7, 0, 0, -1);
-        b.change(24, 0, 0, -1);
-        b.change(Integer.MAX_VALUE, 0, 0, -1);
-        b.change(Integer.MIN_VALUE, 0, 0, -1);
-        b.change(0, 1, 32, -1);
-        b.change(0, 1, -1, -1);
-        b.change(0, 1, 1, -1);
-        b.change(0, 2, 0, -1);
-        b.told(0, 4, 0);
-        b.told(0, 5, 0);
-        b.count(8, 0);
-    }
-
-    private static void valuesOfEachSort() {
-        Bench b = ofEachSort("VALUES", false);
-        int[] least = {0, 0, -64, -32768, -32768, Integer.MIN_VALUE, Integer.MIN_VALUE};
-        int[] most = {1, 3, 63, 32767, 32767, INFINITY, Integer.MAX_VALUE};
-        for (int sort = 0; sort < 7; sort++) {
-            if (sort != 6) {
-                b.change(sort, most[sort] + 1, 0, -1);
-            }
-            if (sort < 5) {
-                b.change(sort, least[sort] - 1, 0, -1);
-            }
-            b.change(sort, most[sort], 0, 1);
-            b.told(sort, 4, most[sort]);
-            b.change(sort, least[sort], 0, 1);
-            b.told(sort, 4, least[sort]);
-        }
-        int[] noNumbers = {NAN, 0x7FC00000, 0x7FFFFFFF, 0xFF800001, 0xFFFFFFFF};
-        for (int bits : noNumbers) {
-            b.change(5, bits, 0, -1);
-        }
-        int[] numbers = {0xFF800000, 0x7F7FFFFF, 0x00000001, 0x80000000, 0};
-        for (int bits : numbers) {
-            b.change(5, bits, 0, 1);
-        }
-    }
-
-    private static void qualitiesOfEachSort() {
-        Bench b = ofEachSort("QUALITIES", false);
-        int[] has = {30, 30, 31, 31, 31, 31, 16};
-        for (int sort = 0; sort < 7; sort++) {
-            for (int bit = 1; bit <= 32; bit *= 2) {
-                boolean fits = (has[sort] & bit) != 0;
-                b.change(sort, 0, bit, fits ? 1 : -1);
-                b.told(sort, 5, fits ? bit : b.station.told(sort, 5));
-            }
-        }
     }
 
     private static void changeAnswers() {

@@ -4,7 +4,8 @@ import java.util.Random;
 
 /**
  * Long runs of calls, sound and unsound: none may throw, and what stands in THE OUT must be
- * FRAMES whose NUMBERS follow one another and whose ACKS tell what came.
+ * FRAMES whose NUMBERS follow one another and whose ACKS tell what came. Each run is made again
+ * with calls between that must be refused: all else must be answered as without them.
  */
 public final class FuzzTest {
     private static final int RUNS = 3000, CALLS = 512;
@@ -12,27 +13,37 @@ public final class FuzzTest {
         16777216, Integer.MAX_VALUE};
 
     private final Random random;
+    private final Random refusals;
     private final ControlledStation station = new ControlledStation();
     private final List<Integer> stream = new ArrayList<>();
     private final List<Integer> answers = new ArrayList<>();
     private int peerNumber;
     private int numberSeen;
 
-    private FuzzTest(long seed) {
+    private FuzzTest(long seed, Random refusals) {
         random = new Random(seed);
+        this.refusals = refusals;
     }
 
     public static void main(String[] args) {
         Bench b = new Bench("fuzz");
         for (int seed = 0; seed < RUNS; seed++) {
-            FuzzTest once = new FuzzTest(seed);
-            FuzzTest again = new FuzzTest(seed);
+            FuzzTest once = new FuzzTest(seed, null);
+            FuzzTest again = new FuzzTest(seed, null);
             String fault = once.run();
             again.run();
             b.due("run " + seed + ": " + fault, fault == null);
             b.due("run " + seed + " answers the same again", once.answers.equals(again.answers));
+            refusedChangesNothing(b, seed, once);
         }
         Bench.finish();
+    }
+
+    private static void refusedChangesNothing(Bench b, int seed, FuzzTest without) {
+        FuzzTest with = new FuzzTest(seed, new Random(-seed));
+        String fault = with.run();
+        b.due("run " + seed + " with refused calls: " + fault, fault == null);
+        b.due("run " + seed + " answers as without the refused calls", with.answers.equals(without.answers));
     }
 
     private String run() {
@@ -40,12 +51,15 @@ public final class FuzzTest {
         setUp();
         String fault = null;
         for (int i = 0; i < CALLS && fault == null; i++) {
+            if (refusals != null) {
+                fault = refusedCalls();
+            }
             if (wild && random.nextInt(3) == 0) {
                 anyCall();
             } else {
                 soundCall();
             }
-            fault = limits();
+            fault = fault == null ? limits() : fault;
             if (fault == null && random.nextInt(6) == 0) {
                 fault = readOut();
             }
@@ -67,6 +81,73 @@ public final class FuzzTest {
             int point = random.nextInt(26) - 1;
             station.command(random.nextInt(3), 61 + random.nextInt(60), point, random.nextBoolean());
         }
+    }
+
+    private String refusedCalls() {
+        for (int i = refusals.nextInt(4); i > 0; i--) {
+            int kind = refusals.nextInt(14);
+            int answer = refusedCall(kind, station.count(0) == 0);
+            if (answer >= 0) {
+                return "call " + kind + " that must be refused answered " + answer;
+            }
+        }
+        return null;
+    }
+
+    private int outside(int least, int most) {
+        int[] all = {least - 1, most + 1, least - 1 - refusals.nextInt(100), most + 1 + refusals.nextInt(100),
+            Integer.MIN_VALUE, Integer.MAX_VALUE};
+        return all[refusals.nextInt(all.length)];
+    }
+
+    /** told refuses by 0, so its answer is made -1 here. */
+    private int refusedCall(int kind, boolean isClosed) {
+        int points = station.count(12);
+        int commands = station.count(13);
+        switch (kind) {
+            case 0: return isClosed ? station.set(outside(0, 6), 1) : station.set(refusals.nextInt(7), 5);
+            case 1: return station.set(1 + refusals.nextInt(6), outside(1, 1000));
+            case 2: return refusedPoint(points);
+            case 3: return refusedCommand(commands, points);
+            case 4: return station.change(outside(0, points - 1), 0, 0);
+            case 5: return refusedChange(points);
+            case 6: return isClosed ? station.close() : station.open();
+            case 7: return station.come(isClosed ? 1 + refusals.nextInt(8) : outside(1, 8), refusals.nextLong());
+            case 8: return station.tick(outside(0, 1000));
+            case 9: return station.out(outside(0, station.count(2) - 1));
+            case 10: return station.take(outside(0, station.count(2)));
+            case 11: return station.told(outside(0, points - 1), refusals.nextInt(7)) - 1;
+            case 12: return station.ordered(outside(0, commands - 1), refusals.nextInt(3));
+            default: return refusals.nextBoolean() ? station.clock(outside(0, 6)) : station.count(outside(0, 13));
+        }
+    }
+
+    private int refusedPoint(int points) {
+        switch (refusals.nextInt(points == 0 ? 3 : 5)) {
+            case 0: return station.point(outside(0, 6), 9999, 0, true);
+            case 1: return station.point(0, outside(1, 16777215), 0, true);
+            case 2: return station.point(0, 9999, outside(0, 16), true);
+            case 3: return station.point(0, station.told(refusals.nextInt(points), 1), 0, true);
+            default: return station.point(0, points == 24 ? 9999 : 0, 0, true);
+        }
+    }
+
+    private int refusedCommand(int commands, int points) {
+        switch (refusals.nextInt(points == 0 ? 3 : 5)) {
+            case 0: return station.command(outside(0, 2), 9999, -1, true);
+            case 1: return station.command(0, outside(1, 16777215), -1, true);
+            case 2: return station.command(0, 9999, outside(-1, points - 1), true);
+            case 3: return station.command(0, station.told(refusals.nextInt(points), 1), -1, true);
+            default: return station.command(0, commands == 12 ? 9999 : 0, -1, true);
+        }
+    }
+
+    /** FULL where that fits, else BAD by a bit that no POINT has. */
+    private int refusedChange(int points) {
+        int point = points == 0 ? 0 : refusals.nextInt(points);
+        boolean isFull = points > 0 && station.count(8) >= 40 && station.told(point, 0) != 6;
+        int quality = isFull ? station.told(point, 5) ^ 16 : 32;
+        return station.change(point, station.told(point, 4), quality);
     }
 
     private int edge() {

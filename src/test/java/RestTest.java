@@ -1,44 +1,34 @@
+import java.time.YearMonth;
 import java.util.Arrays;
 
-/** Promise 8, part 3: the rests of I FRAMES but for COMMANDS; and promise 15's ANSWERS and PASSED BY. */
+/** Part 3: interrogations, counters, readings, clocks and tests. */
 public final class RestTest {
     private static final int DENIED = 64, T = 128;
 
     public static void main(String[] args) {
-        shortRests();
-        unknownTypes();
-        unknownCauses();
-        wrongStations();
-        wrongLengths();
-        wrongSecondByte();
-        wrongAddresses();
-        theFirstFaultCounts();
-        thatDeniedCameIsOfNoMatter();
         interrogationOfAll();
         interrogationOfGroups();
+        eachGroupAlone();
+        interrogationOfNone();
         interrogationByAddresses();
+        sixObjectsAtMost();
+        oneSortThatFollows();
         interrogationDenied();
+        interrogationEnded();
         interrogationWithT();
         counters();
+        sixCountersAtMost();
+        countersOfNone();
         countersOnly();
-        freezesInObjects();
         countersDenied();
+        ordersOfCounters();
         countersWithT();
         readings();
         readingsWithT();
         clocks();
-        clocksDenied();
+        timesOfDay();
+        days();
         tests();
-        sixtyAnswers();
-        sixtyFirstAnswerOfInterrogation();
-        sixtyFirstAnswerOfCommand();
-        sixtyFirstAnswerOfCommandWithoutPoint();
-        sixtyFirstAnswerOfSelection();
-        sixtyFirstAnswerOfClock();
-        sixtyFirstAnswerOfCounters();
-        sixtyFirstAnswerOfCountersRead();
-        answersGoWithTheLink();
-        answersInOrder();
         Bench.finish();
     }
 
@@ -51,148 +41,6 @@ public final class RestTest {
         b.command(2, 9, -1, false, 2);
         b.started();
         return b;
-    }
-
-    /** Sends a rest, and sees that the one ANSWER is the same but for its CAUSE. */
-    private static void same(Bench b, int cause, int... rest) {
-        int sent = b.station.count(3);
-        b.i(rest);
-        int[] answer = rest.clone();
-        answer[2] = cause;
-        b.outIs(Bench.data(sent, sent + 1, answer));
-        b.s(sent + 1);
-    }
-
-    private static void passedBy(Bench b, int... rest) {
-        int before = b.station.count(10);
-        b.i(rest);
-        b.count(2, 0);
-        b.count(7, 0);
-        b.count(10, before + 1);
-    }
-
-    private static void shortRests() {
-        Bench b = station("rests shorter than 9 bytes");
-        b.set(2, 12, -2);
-        passedBy(b);
-        passedBy(b, 200);
-        passedBy(b, 200, 1, 6, 0, 1, 0, 0, 0);
-        passedBy(b, 102, 1, 5, 0, 1, 0, 5, 0);
-        b.count(5, 4);
-    }
-
-    private static void unknownTypes() {
-        int[] types = {0, 1, 44, 47, 48, 50, 99, 105, 128, 255};
-        for (int type : types) {
-            same(station("TYPE " + type), 44 | DENIED, type, 9, 0, 3, 4, 5, 6, 7, 8);
-            same(station("TYPE " + type + " with T"), 44 | DENIED | T, type, 9, T, 3, 4, 5, 6, 7, 8, 9);
-        }
-    }
-
-    private static void unknownCauses() {
-        int[] types = {45, 46, 49, 100, 101, 102, 103, 104};
-        for (int type : types) {
-            Bench b = station("CAUSES of " + type);
-            for (int cause = 3; cause <= 10; cause++) {
-                boolean told = type == 102 ? cause == 5 : cause == 6 || cause == 8 && type <= 100;
-                if (!told) {
-                    same(b, 45 | DENIED, type, 2, cause, 3, 4, 5, 6, 7, 8);
-                }
-            }
-            same(b, 45 | DENIED | T, type, 2, T | 63, 3, 4, 5, 6, 7, 8);
-        }
-    }
-
-    private static void wrongStations() {
-        int[] types = {45, 46, 49, 100, 101, 102, 103, 104};
-        for (int type : types) {
-            int cause = type == 102 ? 5 : 6;
-            Bench b = station("stations of " + type);
-            same(b, 46 | DENIED, type, 2, cause, 3, 2, 0, 0, 0, 0);
-            same(b, 46 | DENIED, type, 2, cause, 3, 0, 1, 0, 0, 0);
-            same(b, 46 | DENIED, type, 2, cause, 3, 254, 255, 0, 0, 0);
-            if (type < 100) {
-                same(b, 46 | DENIED, type, 1, cause, 3, 255, 255, 7, 0, 0, 1);
-            } else {
-                passedBy(b, type, 2, cause, 3, 255, 255, 0, 0, 0);
-            }
-        }
-        Bench b = station("every station");
-        same(b, 7, 104, 1, 6, 3, 255, 255, 0, 0, 0, 170, 85);
-        b.i(102, 1, 5, 3, 255, 255, 5, 0, 0);
-        b.outIs(Bench.data(1, 2, 1, 1, 5, 3, 1, 0, 5, 0, 0, 0));
-        Bench c = new Bench("another station");
-        c.set(0, 0x1234, 1);
-        c.started();
-        same(c, 7, 104, 1, 6, 3, 0x34, 0x12, 0, 0, 0, 170, 85);
-        same(c, 46 | DENIED, 104, 1, 6, 3, 1, 0, 0, 0, 0, 170, 85);
-    }
-
-    private static void wrongLengths() {
-        int[][] lengths = {{45, 10}, {46, 10}, {49, 12}, {100, 10}, {101, 10}, {102, 9}, {103, 16}, {104, 11}};
-        for (int[] pair : lengths) {
-            Bench b = station("lengths of " + pair[0]);
-            for (int length = 9; length <= 18; length++) {
-                if (length != pair[1]) {
-                    int[] rest = new int[length];
-                    rest[0] = pair[0];
-                    rest[1] = 1;
-                    rest[2] = pair[0] == 102 ? 5 : 6;
-                    rest[4] = 1;
-                    rest[6] = 77;
-                    int before = b.station.count(10);
-                    b.i(rest);
-                    b.count(7, 0);
-                    b.count(3, 0);
-                    b.count(10, before + 1);
-                }
-            }
-        }
-    }
-
-    private static void wrongSecondByte() {
-        Bench b = station("the second byte");
-        int[] wrong = {0, 2, 129, 255};
-        for (int second : wrong) {
-            passedBy(b, 104, second, 6, 3, 1, 0, 77, 0, 0, 170, 85);
-        }
-        b.i(104, 1, 6, 3, 1, 0, 0, 0, 0, 170, 85);
-        b.count(3, 1);
-    }
-
-    private static void wrongAddresses() {
-        Bench b = station("ADDRESSES");
-        same(b, 47 | DENIED, 45, 1, 6, 3, 1, 0, 8, 0, 0, 1);
-        same(b, 47 | DENIED, 45, 1, 8, 3, 1, 0, 5, 0, 0, 1);
-        same(b, 47 | DENIED, 46, 1, 6, 3, 1, 0, 7, 0, 0, 1);
-        same(b, 47 | DENIED, 46, 1, 6, 3, 1, 0, 8, 1, 0, 1);
-        same(b, 47 | DENIED, 49, 1, 6, 3, 1, 0, 8, 0, 0, 1, 0, 0);
-        same(b, 47 | DENIED, 49, 1, 6, 3, 1, 0, 9, 0, 1, 1, 0, 0);
-        same(b, 47 | DENIED, 102, 1, 5, 3, 1, 0, 7, 0, 0);
-        same(b, 47 | DENIED | T, 102, 1, 5 | T, 3, 1, 0, 0, 0, 0);
-        same(b, 47 | DENIED, 100, 1, 6, 3, 1, 0, 5, 0, 0, 20);
-        same(b, 47 | DENIED, 101, 1, 6, 3, 1, 0, 0, 1, 0, 5);
-        same(b, 47 | DENIED, 103, 1, 6, 3, 1, 0, 0, 0, 1, 0, 0, 0, 0, 1, 1, 0);
-        same(b, 47 | DENIED, 104, 1, 6, 3, 1, 0, 1, 0, 0, 170, 85);
-        b.count(10, 0);
-    }
-
-    private static void theFirstFaultCounts() {
-        Bench b = station("the first fault");
-        same(b, 44 | DENIED, 200, 2, 60, 3, 9, 9, 9, 9, 9);
-        same(b, 45 | DENIED, 100, 2, 60, 3, 9, 9, 9, 9, 9);
-        same(b, 46 | DENIED, 100, 2, 6, 3, 9, 9, 9, 9, 9);
-        passedBy(b, 100, 2, 6, 3, 1, 0, 9, 9, 9, 99);
-        passedBy(b, 100, 1, 6, 3, 1, 0, 9, 9, 9);
-        b.i(100, 1, 6, 3, 1, 0, 9, 9, 9, 99);
-        b.outIs(Bench.data(3, 6, 100, 1, 47 | DENIED, 3, 1, 0, 9, 9, 9, 99));
-    }
-
-    private static void thatDeniedCameIsOfNoMatter() {
-        Bench b = station("64 came");
-        same(b, 7, 104, 1, 6 | DENIED, 3, 1, 0, 0, 0, 0, 170, 85);
-        same(b, 7 | T, 104, 1, 6 | DENIED | T, 3, 1, 0, 0, 0, 0, 170, 85);
-        same(b, 45 | DENIED, 104, 1, 5 | DENIED, 3, 1, 0, 0, 0, 0, 170, 85);
     }
 
     private static void interrogationOfAll() {
@@ -258,17 +106,6 @@ public final class RestTest {
             Bench.data(5, 1, 100, 1, 10, 9, 1, 0, 0, 0, 0, 20));
     }
 
-    private static void interrogationDenied() {
-        Bench b = station("100 denied");
-        int[] wrong = {0, 19, 37, 255};
-        for (int q : wrong) {
-            same(b, 7 | DENIED, 100, 1, 6, 3, 1, 0, 0, 0, 0, q);
-        }
-        same(b, 9 | DENIED, 100, 1, 8, 3, 1, 0, 0, 0, 0, 20);
-        same(b, 9 | DENIED | T, 100, 1, 8 | T, 3, 1, 0, 0, 0, 0, 0);
-        same(b, 7 | DENIED | T, 100, 1, 6 | T, 3, 1, 0, 0, 0, 0, 37);
-    }
-
     private static void interrogationWithT() {
         Bench b = station("100 with T");
         b.i(100, 1, 6 | T, 9, 1, 0, 0, 0, 0, 20);
@@ -276,18 +113,25 @@ public final class RestTest {
             Bench.data(1, 1, 100, 1, 10 | T, 9, 1, 0, 0, 0, 0, 20));
     }
 
-    /** Sends a 101 and sees that it is answered by 7 and 10, and the FRAMES between. */
-    private static void counterOrder(Bench b, int byteOfOrder, int[]... between) {
-        int sent = b.station.count(3);
-        int came = b.station.count(5) + 1;
-        b.i(101, 1, 6, 3, 1, 0, 0, 0, 0, byteOfOrder);
-        int[] all = Bench.data(sent, came, 101, 1, 7, 3, 1, 0, 0, 0, 0, byteOfOrder);
+    /** Sends an order and sees that it is answered by 7 and 10, and these rests between. */
+    private static void orderAll(Bench b, int[] order, int[]... between) {
+        int sent = b.read(3);
+        int came = b.read(5) + 1;
+        b.i(order);
+        int[] answer = order.clone();
+        answer[2] = 7;
+        int[] all = Bench.data(sent, came, answer);
         for (int i = 0; i < between.length; i++) {
             all = Bench.join(all, Bench.data(sent + 1 + i, came, between[i]));
         }
         int last = sent + 1 + between.length;
-        b.outIs(all, Bench.data(last, came, 101, 1, 10, 3, 1, 0, 0, 0, 0, byteOfOrder));
+        answer[2] = 10;
+        b.outIs(all, Bench.data(last, came, answer));
         b.s(last + 1);
+    }
+
+    private static void counterOrder(Bench b, int asked, int[]... between) {
+        orderAll(b, new int[] {101, 1, 6, 3, 1, 0, 0, 0, 0, asked}, between);
     }
 
     private static void counters() {
@@ -337,33 +181,6 @@ public final class RestTest {
         b.count(11, 2);
     }
 
-    private static void freezesInObjects() {
-        Bench b = new Bench("THE FREEZES modulo 32");
-        b.point(6, 9, 3, true, 0);
-        b.started();
-        for (int i = 0; i < 33; i++) {
-            b.i(101, 1, 6, 3, 1, 0, 0, 0, 0, 64 | 5);
-            b.s(2 * i + 2);
-        }
-        b.count(11, 33);
-        b.skipOut();
-        b.change(0, 7, 16, 1);
-        b.i(102, 1, 5, 3, 1, 0, 9, 0, 0);
-        b.outIs(Bench.data(66, 34, 15, 1, 5, 3, 1, 0, 9, 0, 0, 7, 0, 0, 0, 129));
-    }
-
-    private static void countersDenied() {
-        Bench b = station("101 denied");
-        int[] wrong = {0, 4, 6, 37, 69, 192, 255};
-        for (int order : wrong) {
-            if ((order & 63) != 5) {
-                same(b, 7 | DENIED, 101, 1, 6, 3, 1, 0, 0, 0, 0, order);
-            }
-        }
-        same(b, 7 | DENIED, 101, 1, 6, 3, 1, 0, 0, 0, 0, 64 | 13);
-        b.count(11, 0);
-    }
-
     private static void countersWithT() {
         Bench b = new Bench("101 with T");
         b.point(6, 9, 0, false, 0);
@@ -393,7 +210,7 @@ public final class RestTest {
         for (int sort = 0; sort < 7; sort++) {
             b.i(102, 1, 5, 200, 1, 0, 16 + sort, 0, 0);
             int[] head = {objects[sort][0], 1, 5, 200, 1, 0, 16 + sort, 0, 0};
-            int[] behind = java.util.Arrays.copyOfRange(objects[sort], 1, objects[sort].length);
+            int[] behind = Arrays.copyOfRange(objects[sort], 1, objects[sort].length);
             b.outIs(Bench.data(sort, sort + 1, Bench.join(head, behind)));
         }
     }
@@ -418,194 +235,212 @@ public final class RestTest {
         b.outIs(Bench.data(1, 2, 103, 1, 7, 3, 255, 255, 0, 0, 0, 1, 2, 3, 4, 5, 6, 7));
     }
 
-    private static void clocksDenied() {
-        int[][] wrong = {
-            {96, 234, 0, 0, 1, 1, 0}, {255, 255, 0, 0, 1, 1, 0}, {0, 0, 60, 0, 1, 1, 0}, {0, 0, 64, 0, 1, 1, 0},
-            {0, 0, 128, 0, 1, 1, 0}, {0, 0, 0, 24, 1, 1, 0}, {0, 0, 0, 128, 1, 1, 0}, {0, 0, 0, 0, 0, 1, 0},
-            {0, 0, 0, 0, 32, 1, 0}, {0, 0, 0, 0, 33, 1, 0}, {0, 0, 0, 0, 1, 0, 0}, {0, 0, 0, 0, 1, 13, 0},
-            {0, 0, 0, 0, 1, 17, 0}, {0, 0, 0, 0, 31, 4, 0}, {0, 0, 0, 0, 31, 6, 0}, {0, 0, 0, 0, 31, 9, 0},
-            {0, 0, 0, 0, 31, 11, 0}, {0, 0, 0, 0, 30, 2, 0}, {0, 0, 0, 0, 29, 2, 1}, {0, 0, 0, 0, 29, 2, 98},
-            {0, 0, 0, 0, 1, 1, 100}, {0, 0, 0, 0, 1, 1, 129}, {0, 0, 0, 0, 1, 1, 255},
-        };
-        int[] head = {103, 1, 6, 3, 1, 0, 0, 0, 0};
-        for (int[] time : wrong) {
-            Bench b = station("103 denied " + java.util.Arrays.toString(time));
-            same(b, 7 | DENIED, Bench.join(head, time));
+    /** Seventeen POINTS, one of each GROUP: that of GROUP 0 is shown by 20 alone. */
+    private static void eachGroupAlone() {
+        for (int q = 21; q <= 36; q++) {
+            Bench b = new Bench("q " + q);
+            for (int group = 0; group <= 16; group++) {
+                b.point(0, 100 - group, group, false, group);
+            }
+            b.started();
+            interrogate(b, q, new int[] {1, 1, q, 0, 1, 0, 100 - (q - 20), 0, 0, 0});
+        }
+    }
+
+    private static void interrogate(Bench b, int q, int[]... between) {
+        orderAll(b, new int[] {100, 1, 6, 9, 1, 0, 0, 0, 0, q}, between);
+    }
+
+    private static void interrogationOfNone() {
+        for (int q = 20; q <= 36; q++) {
+            Bench b = new Bench("no POINTS");
+            b.started();
+            interrogate(b, q);
+            Bench c = new Bench("COUNTERS alone");
+            c.point(6, 5, q - 20, false, 0);
+            c.started();
+            interrogate(c, q);
+        }
+    }
+
+    private static int[] objects(int type, int cause, int first, int many, int bytes) {
+        int[] rest = new int[6 + many * (3 + bytes)];
+        rest[0] = type;
+        rest[1] = many;
+        rest[2] = cause;
+        rest[4] = 1;
+        for (int i = 0; i < many; i++) {
+            rest[6 + i * (3 + bytes)] = first + i;
+        }
+        return rest;
+    }
+
+    /** Of SINGLE and of FLOAT, the shortest and the longest OBJECTS, 1 to 24 of them. */
+    private static void sixObjectsAtMost() {
+        for (int sort = 0; sort <= 5; sort += 5) {
+            for (int many = 1; many <= 24; many++) {
+                Bench b = new Bench(many + " POINTS of SORT " + sort);
+                int[][] due = new int[(many + 5) / 6][];
+                for (int i = 0; i < many; i++) {
+                    b.point(sort, 1 + i, 0, false, i);
+                }
+                for (int i = 0; i < due.length; i++) {
+                    int type = sort == 0 ? 1 : 13;
+                    due[i] = objects(type, 20, 1 + 6 * i, Math.min(6, many - 6 * i), sort == 0 ? 1 : 5);
+                }
+                b.started();
+                interrogate(b, 20, due);
+            }
+        }
+    }
+
+    /** SORTS 0, 0, 3, 4, 4, 0 by ADDRESSES: a FRAME for each run; and one run again where 3 and 4 are not asked for. */
+    private static void oneSortThatFollows() {
+        Bench b = new Bench("OBJECTS of one SORT that follow one another");
+        int[] sorts = {0, 0, 3, 4, 4, 0};
+        for (int i = 0; i < sorts.length; i++) {
+            b.point(sorts[i], 1 + i, sorts[i] == 0 ? 1 : 2, true, i);
+        }
+        b.started();
+        interrogate(b, 20, objects(1, 20, 1, 2, 1), objects(9, 20, 3, 1, 3), objects(11, 20, 4, 2, 3),
+            objects(1, 20, 6, 1, 1));
+        interrogate(b, 21, new int[] {1, 3, 21, 0, 1, 0, 1, 0, 0, 0, 2, 0, 0, 0, 6, 0, 0, 0});
+    }
+
+    private static void interrogationDenied() {
+        for (int q = 0; q < 256; q++) {
+            Bench b = station("100, q " + q);
+            if (q < 20 || q > 36) {
+                b.same(7 | DENIED, 100, 1, 6, 3, 1, 0, 0, 0, 0, q);
+                b.same(7 | DENIED | T, 100, 1, 6 | T, 3, 1, 0, 0, 0, 0, q);
+            } else {
+                b.i(100, 1, 6, 3, 1, 0, 0, 0, 0, q);
+                b.count(3, q <= 21 ? 3 : 2);
+            }
+        }
+    }
+
+    private static void interrogationEnded() {
+        for (int q = 19; q <= 37; q++) {
+            Bench b = station("100, CAUSE 8, q " + q);
+            b.same(9 | DENIED, 100, 1, 8, 3, 1, 0, 0, 0, 0, q);
+            b.same(9 | DENIED | T, 100, 1, 8 | T, 3, 1, 0, 0, 0, 0, q);
+        }
+    }
+
+    private static void sixCountersAtMost() {
+        for (int many = 1; many <= 24; many++) {
+            Bench b = new Bench(many + " COUNTERS");
+            int[][] due = new int[(many + 5) / 6][];
+            for (int i = 0; i < many; i++) {
+                b.point(6, 1 + i, i % 17, i % 2 == 0, i);
+            }
+            for (int i = 0; i < due.length; i++) {
+                due[i] = objects(15, 37, 1 + 6 * i, Math.min(6, many - 6 * i), 5);
+            }
+            b.started();
+            counterOrder(b, 5, due);
+        }
+    }
+
+    private static void countersOfNone() {
+        Bench b = new Bench("101 when there is no COUNTER");
+        b.point(0, 1, 0, false, 0);
+        b.started();
+        for (int order = 0; order < 4; order++) {
+            counterOrder(b, order << 6 | 5);
+        }
+        b.count(11, 2);
+    }
+
+    private static void countersDenied() {
+        for (int asked = 0; asked < 256; asked++) {
+            if ((asked & 63) != 5) {
+                Bench b = station("101 by " + asked);
+                b.change(1, 7, 0, 1);
+                b.same(7 | DENIED, 101, 1, 6, 3, 1, 0, 0, 0, 0, asked);
+                b.same(7 | DENIED | T, 101, 1, 6 | T, 3, 1, 0, 0, 0, 0, asked);
+                b.count(11, 0);
+                b.told(1, 4, 7);
+                b.told(1, 6, 0);
+            }
+        }
+    }
+
+    /** From VALUE 7 and FROZEN VALUE 3, behind one FREEZE. */
+    private static void ordersOfCounters() {
+        int[] values = {7, 7, 0, 0};
+        int[] frozen = {3, 7, 7, 3};
+        int[] freezes = {1, 2, 2, 1};
+        for (int order = 0; order < 4; order++) {
+            Bench b = new Bench("101, its upper two " + order);
+            b.point(6, 5, 0, false, 0);
+            b.change(0, 3, 16, 1);
+            b.started();
+            counterOrder(b, 64 | 5);
+            b.change(0, 7, 16, 1);
+            if (order == 0) {
+                counterOrder(b, 5, new int[] {15, 1, 37, 0, 1, 0, 5, 0, 0, 3, 0, 0, 0, 129});
+            } else {
+                counterOrder(b, order << 6 | 5);
+            }
+            b.told(0, 4, values[order]);
+            b.told(0, 5, 16);
+            b.told(0, 6, frozen[order]);
+            b.count(11, freezes[order]);
+            b.count(8, 0);
+        }
+    }
+
+    /** Sets the clock by these seven bytes: it becomes that, or 7 is denied and it stays. */
+    private static void timeCame(boolean isTime, int... time) {
+        Bench b = station("103 " + Arrays.toString(time));
+        b.same(isTime ? 7 : 7 | DENIED, Bench.join(new int[] {103, 1, 6, 3, 1, 0, 0, 0, 0}, time));
+        if (isTime) {
+            b.clockIs(time[0] + 256 * time[1], time[2], time[3], time[4], time[5], time[6], 1);
+        } else {
             b.clockIs(0, 0, 0, 1, 1, 0, 0);
         }
-        int[][] right = {{95, 234, 59, 23, 31, 12, 99}, {0, 0, 0, 0, 29, 2, 96}, {0, 0, 0, 0, 29, 2, 0},
-            {0, 0, 0, 0, 28, 2, 1}, {0, 0, 0, 0, 30, 4, 4}, {0, 0, 0, 0, 31, 7, 4}, {0, 0, 0, 0, 31, 8, 4}};
-        for (int[] time : right) {
-            Bench b = station("103 " + java.util.Arrays.toString(time));
-            same(b, 7, Bench.join(head, time));
-            b.clockIs(time[0] + 256 * time[1], time[2], time[3], time[4], time[5], time[6], 1);
+    }
+
+    private static void timesOfDay() {
+        for (int milliseconds : new int[] {0, 1, 255, 256, 32767, 32768, 59999, 60000, 60001, 65535}) {
+            timeCame(milliseconds < 60000, milliseconds & 255, milliseconds >> 8, 59, 23, 1, 1, 1);
+        }
+        for (int part = 0; part < 256; part++) {
+            timeCame(part < 60, 95, 234, part, 23, 1, 1, 1);
+            timeCame(part < 24, 95, 234, 59, part, 1, 1, 1);
+        }
+    }
+
+    /** Every month and its neighbours in every year and behind them, told by the library's calendar. */
+    private static void days() {
+        int[] days = {0, 1, 28, 29, 30, 31, 32, 33, 63, 65, 129, 255};
+        int[] months = {0, 1, 2, 3, 4, 5, 6, 7, 8, 9, 10, 11, 12, 13, 17, 33, 130, 255};
+        for (int year = 0; year <= 101; year++) {
+            for (int month : months) {
+                boolean isMonth = month >= 1 && month <= 12 && year < 100;
+                int last = isMonth ? YearMonth.of(2000 + year, month).lengthOfMonth() : 0;
+                for (int day : days) {
+                    timeCame(day >= 1 && day <= last, 0, 0, 0, 0, day, month, year);
+                }
+            }
+        }
+        for (int year = 102; year < 256; year++) {
+            timeCame(false, 0, 0, 0, 0, 1, 1, year);
         }
     }
 
     private static void tests() {
         Bench b = station("104");
-        same(b, 7, 104, 1, 6, 3, 1, 0, 0, 0, 0, 170, 85);
-        same(b, 7 | T, 104, 1, 6 | T, 3, 1, 0, 0, 0, 0, 170, 85);
-        same(b, 7 | DENIED, 104, 1, 6, 3, 1, 0, 0, 0, 0, 85, 170);
-        same(b, 7 | DENIED, 104, 1, 6, 3, 1, 0, 0, 0, 0, 170, 84);
-        same(b, 7 | DENIED, 104, 1, 6, 3, 1, 0, 0, 0, 0, 171, 85);
-    }
-
-    /** A station whose one I FRAME is not acknowledged, and so many ANSWERS wait. */
-    private static Bench waiting(String name, int answers) {
-        Bench b = new Bench(name);
-        b.set(1, 1, 12);
-        b.point(0, 5, 1, false, 0);
-        b.point(1, 6, 1, false, 1);
-        b.point(4, 13, 2, false, 2);
-        b.point(6, 12, 1, false, 3);
-        b.command(0, 7, 0, false, 0);
-        b.command(1, 9, 1, false, 1);
-        b.command(2, 10, 2, false, 2);
-        b.command(0, 11, -1, false, 3);
-        b.command(0, 8, 0, true, 4);
-        b.started();
-        for (int i = 0; i <= answers; i++) {
-            b.i(102, 1, 5, i, 1, 0, 5, 0, 0);
+        b.same(7, 104, 1, 6, 3, 1, 0, 0, 0, 0, 170, 85);
+        b.same(7 | T, 104, 1, 6 | T, 3, 1, 0, 0, 0, 0, 170, 85);
+        b.same(7 | DENIED, 104, 1, 6, 3, 1, 0, 0, 0, 0, 85, 170);
+        b.same(7 | DENIED | T, 104, 1, 6 | T, 3, 1, 0, 0, 0, 0, 85, 170);
+        for (int bit = 1; bit < 256; bit *= 2) {
+            Bench c = station("104 with another bit " + bit);
+            c.same(7 | DENIED, 104, 1, 6, 3, 1, 0, 0, 0, 0, 170 ^ bit, 85);
+            c.same(7 | DENIED, 104, 1, 6, 3, 1, 0, 0, 0, 0, 170, 85 ^ bit);
         }
-        b.count(7, answers);
-        b.count(0, 2);
-        return b;
-    }
-
-    private static void sixtyAnswers() {
-        Bench b = waiting("60 ANSWERS", 60);
-        b.count(5, 61);
-        b.frame(0, 102, 1, 5, 61, 1, 0, 5, 0, 0);
-        b.closedBy(7);
-        b.count(7, 0);
-        b.count(5, 62);
-        b.count(4, 0);
-        b.count(3, 1);
-    }
-
-    private static void sixtyFirstAnswerOfInterrogation() {
-        Bench b = waiting("an interrogation that fills", 56);
-        b.i(100, 1, 6, 9, 1, 0, 0, 0, 0, 21);
-        b.count(7, 60);
-        Bench c = waiting("an interrogation that overflows", 57);
-        c.frame(0, 100, 1, 6, 9, 1, 0, 0, 0, 0, 21);
-        c.closedBy(7);
-        c.count(7, 0);
-        c.open(1);
-        c.u(Bench.START);
-        c.outIs(Bench.frameOf(Bench.START_ANSWER));
-        c.i(104, 1, 6, 3, 1, 0, 0, 0, 0, 170, 85);
-        c.outIs(Bench.data(0, 1, 104, 1, 7, 3, 1, 0, 0, 0, 0, 170, 85));
-    }
-
-    /** The 7 with no room: nothing is carried out. A later one: what is told ahead of it stands. */
-    private static void sixtyFirstAnswerOfCommand() {
-        int[][] orders = {{0, 45, 7, 1}, {1, 46, 9, 2}, {2, 49, 10, 44, 1, 0}};
-        int[] values = {1, 2, 300};
-        for (int[] order : orders) {
-            int[] head = {order[1], 1, 6, 9, 1, 0, order[2], 0, 0};
-            int[] rest = Bench.join(head, Arrays.copyOfRange(order, 3, order.length));
-            for (int room = 0; room <= 3; room++) {
-                Bench b = waiting("TYPE " + order[1] + " with room for " + room, 60 - room);
-                b.frame(room == 3 ? 1 : 0, rest);
-                b.count(0, room == 3 ? 2 : 0);
-                b.count(1, room == 3 ? 0 : 7);
-                b.count(7, room == 3 ? 60 : 0);
-                b.ordered(order[0], 2, room == 0 ? 0 : 1);
-                b.told(order[0], 4, room == 0 ? 0 : values[order[0]]);
-            }
-        }
-    }
-
-    private static void sixtyFirstAnswerOfCommandWithoutPoint() {
-        for (int room = 0; room <= 1; room++) {
-            Bench b = waiting("a COMMAND of no POINT with room for " + room, 60 - room);
-            b.frame(0, 45, 1, 6, 9, 1, 0, 11, 0, 0, 1);
-            b.closedBy(7);
-            b.ordered(3, 2, room);
-        }
-    }
-
-    private static void sixtyFirstAnswerOfSelection() {
-        Bench b = waiting("a SELECTION with no room", 60);
-        b.frame(0, 45, 1, 6, 9, 1, 0, 8, 0, 0, 129);
-        b.closedBy(7);
-        b.ordered(4, 0, 0);
-        b.ordered(4, 1, 0);
-        Bench c = waiting("a SELECTED COMMAND with no room", 59);
-        c.i(45, 1, 6, 9, 1, 0, 8, 0, 0, 129);
-        c.ordered(4, 0, 1);
-        c.frame(0, 45, 1, 6, 9, 1, 0, 8, 0, 0, 1);
-        c.closedBy(7);
-        c.ordered(4, 0, 0);
-        c.ordered(4, 2, 0);
-        c.told(0, 4, 0);
-    }
-
-    private static void sixtyFirstAnswerOfClock() {
-        int[] order = {103, 1, 6, 9, 1, 0, 0, 0, 0, 100, 0, 5, 6, 7, 8, 9};
-        Bench b = waiting("a TIME with no room", 60);
-        b.frame(0, order);
-        b.closedBy(7);
-        b.clockIs(0, 0, 0, 1, 1, 0, 0);
-        Bench c = waiting("a TIME with room for one", 59);
-        c.i(order);
-        c.count(7, 60);
-        c.clockIs(100, 5, 6, 7, 8, 9, 1);
-    }
-
-    private static void sixtyFirstAnswerOfCounters() {
-        for (int asked = 1; asked <= 3; asked++) {
-            for (int room = 0; room <= 2; room++) {
-                Bench b = waiting("COUNTERS by " + asked + " with room for " + room, 60 - room);
-                b.change(3, 77, 0, 1);
-                b.frame(room == 2 ? 1 : 0, 101, 1, 6, 9, 1, 0, 0, 0, 0, asked << 6 | 5);
-                b.count(0, room == 2 ? 2 : 0);
-                b.count(1, room == 2 ? 0 : 7);
-                b.count(11, room == 0 || asked == 3 ? 0 : 1);
-                b.told(3, 6, room == 0 || asked == 3 ? 0 : 77);
-                b.told(3, 4, room == 0 || asked == 1 ? 77 : 0);
-            }
-        }
-    }
-
-    private static void sixtyFirstAnswerOfCountersRead() {
-        for (int room = 0; room <= 3; room++) {
-            Bench b = waiting("COUNTERS read with room for " + room, 60 - room);
-            b.frame(room == 3 ? 1 : 0, 101, 1, 6, 9, 1, 0, 0, 0, 0, 5);
-            b.count(0, room == 3 ? 2 : 0);
-            b.count(1, room == 3 ? 0 : 7);
-            b.count(7, room == 3 ? 60 : 0);
-        }
-    }
-
-    private static void answersGoWithTheLink() {
-        Bench b = waiting("ANSWERS go", 3);
-        b.close(1);
-        b.count(7, 0);
-        b.open(1);
-        b.u(Bench.START);
-        b.outIs(Bench.frameOf(Bench.START_ANSWER));
-    }
-
-    private static void answersInOrder() {
-        Bench b = waiting("ANSWERS in their order", 50);
-        b.skipOut();
-        for (int ack = 1; ack <= 20; ack++) {
-            b.s(ack);
-        }
-        for (int i = 51; i < 80; i++) {
-            b.i(102, 1, 5, i, 1, 0, 5, 0, 0);
-        }
-        b.count(7, 59);
-        b.skipOut();
-        for (int ack = 21; ack <= 77; ack++) {
-            b.s(ack);
-        }
-        b.take(b.station.count(2) - 48, 48);
-        b.outIs(Bench.data(75, 80, 1, 1, 5, 75, 1, 0, 5, 0, 0, 0), Bench.data(76, 80, 1, 1, 5, 76, 1, 0, 5, 0, 0, 0),
-            Bench.data(77, 80, 1, 1, 5, 77, 1, 0, 5, 0, 0, 0));
-        b.count(7, 2);
     }
 }

@@ -1,5 +1,7 @@
 /** Promise 9: TICKS, and the TIMERS T1, T2, T3 and S. */
 public final class TimerTest {
+    private static final int[] LEAST_AND_MOST = {1, 2, 999, 1000};
+
     public static void main(String[] args) {
         refuses();
         answersTheLink();
@@ -16,7 +18,145 @@ public final class TimerTest {
         ackAheadOfTest();
         selectionRunsOut();
         closedLinkHasNoTimers();
+        leastAndMostT1();
+        leastAndMostT1OfTest();
+        leastAndMostT2();
+        leastAndMostT3();
+        leastAndMostS();
+        ackThatWasSentEndsT2();
+        manyTicksAreAsOneByOne();
         Bench.finish();
+    }
+
+    private static void leastAndMostT1() {
+        for (int ticks : LEAST_AND_MOST) {
+            Bench b = withEvents("T1 of " + ticks);
+            b.set(3, ticks, 150);
+            b.set(5, 1000, 200);
+            b.started();
+            b.change(0, 1, 0, 1);
+            b.tick(ticks - 1, 2);
+            b.count(4, 1);
+            b.tick(1, 0);
+            b.closedBy(4);
+        }
+    }
+
+    private static void leastAndMostT1OfTest() {
+        for (int ticks : LEAST_AND_MOST) {
+            Bench b = withEvents("T1 of " + ticks + " since TEST");
+            b.set(3, ticks, 150);
+            b.set(5, 1, 200);
+            b.open(1);
+            b.tick(1, 1);
+            b.count(9, 1);
+            b.tick(ticks - 1, 1);
+            b.tick(1, 0);
+            b.closedBy(4);
+            b.outIs(Bench.frameOf(Bench.TEST));
+        }
+    }
+
+    private static void leastAndMostT2() {
+        for (int ticks : LEAST_AND_MOST) {
+            Bench b = withEvents("T2 of " + ticks);
+            b.set(4, ticks, 100);
+            b.set(5, 1000, 200);
+            b.started();
+            b.i();
+            b.tick(ticks - 1, 2);
+            b.count(2, 0);
+            b.count(6, 1);
+            b.tick(1, 2);
+            b.count(6, 0);
+            b.outIs(Bench.ackOf(1), ticks == 1000 ? Bench.frameOf(Bench.TEST) : new int[0]);
+        }
+    }
+
+    private static void leastAndMostT3() {
+        for (int ticks : LEAST_AND_MOST) {
+            Bench b = withEvents("T3 of " + ticks);
+            b.set(5, ticks, 200);
+            b.open(1);
+            b.tick(ticks - 1, 1);
+            b.count(2, 0);
+            b.tick(1, 1);
+            b.outIs(Bench.frameOf(Bench.TEST));
+            b.u(Bench.TEST_ANSWER);
+            b.tick(ticks - 1, 1);
+            b.count(9, 0);
+            b.tick(1, 1);
+            b.count(9, 1);
+        }
+    }
+
+    private static void leastAndMostS() {
+        for (int ticks : LEAST_AND_MOST) {
+            Bench b = new Bench("S of " + ticks);
+            b.set(5, 1000, 200);
+            b.set(6, ticks, 300);
+            b.command(0, 7, -1, true, 0);
+            b.started();
+            b.i(45, 1, 6, 2, 1, 0, 7, 0, 0, 129);
+            b.s(1);
+            b.ordered(0, 1, ticks);
+            b.tick(ticks - 1, 2);
+            b.ordered(0, 0, 1);
+            b.ordered(0, 1, 1);
+            b.tick(1, 2);
+            b.ordered(0, 0, 0);
+            b.ordered(0, 1, 0);
+        }
+    }
+
+    private static void ackThatWasSentEndsT2() {
+        Bench b = withEvents("an ACK by W, STOP or I ends T2");
+        b.set(2, 2, 8);
+        b.set(4, 5, 100);
+        b.started();
+        b.i();
+        b.tick(4, 2);
+        b.i();
+        b.outIs(Bench.ackOf(2));
+        b.tick(6, 2);
+        b.i();
+        b.u(Bench.STOP);
+        b.outIs(Bench.ackOf(3), Bench.frameOf(Bench.STOP_ANSWER));
+        b.tick(6, 1);
+        b.u(Bench.START);
+        b.i();
+        b.change(0, 1, 0, 1);
+        b.outIs(Bench.frameOf(Bench.START_ANSWER), Bench.data(0, 4, 1, 1, 3, 0, 1, 0, 5, 0, 0, 1));
+        b.tick(6, 2);
+        b.count(2, 0);
+        Bench c = withEvents("T2 when it is STOPPED");
+        c.started();
+        c.change(0, 1, 0, 1);
+        c.u(Bench.STOP);
+        c.i();
+        c.s(1);
+        c.skipOut();
+        c.tick(99, 1);
+        c.count(6, 1);
+        c.tick(1, 1);
+        c.outIs(Bench.ackOf(1));
+    }
+
+    /** TEST behind 200 TICKS, CLOSED behind 150 more, and THE CLOCK goes on. */
+    private static void manyTicksAreAsOneByOne() {
+        Bench b = withEvents("400 TICKS at once");
+        b.open(1);
+        b.tick(400, 0);
+        Bench c = withEvents("400 TICKS one by one");
+        c.open(1);
+        for (int i = 1; i <= 400; i++) {
+            c.tick(1, i < 350 ? 1 : 0);
+        }
+        for (Bench one : new Bench[] {b, c}) {
+            one.closedBy(4);
+            one.outIs(Bench.frameOf(Bench.TEST));
+            one.clockIs(40000, 0, 0, 1, 1, 0, 0);
+        }
     }
 
     private static void refuses() {
