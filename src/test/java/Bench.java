@@ -64,6 +64,18 @@ final class Bench {
         return b;
     }
 
+    /** STARTED, with a SINGLE POINT 5 and a COUNTER 6 of GROUP 1, and a COMMAND of each SORT: 7, 8 and 9. */
+    static Bench withCommands(String name) {
+        Bench b = new Bench(name);
+        b.point(0, 5, 1, false, 0);
+        b.point(6, 6, 1, false, 1);
+        b.command(0, 7, 0, false, 0);
+        b.command(1, 8, -1, false, 1);
+        b.command(2, 9, -1, false, 2);
+        b.started();
+        return b;
+    }
+
     void due(String what, boolean holds) {
         note(what, holds, true);
     }

@@ -22,6 +22,7 @@ public final class CommandTest {
         carryOutWithT();
         deactivateWithT();
         selectAnewBehindTheEnd();
+        oneAtMostIsSelected();
         everyByteOfSingle();
         everyByteOfDouble();
         everyByteOfSet();
@@ -317,6 +318,24 @@ public final class CommandTest {
         b.tick(1, 2);
         b.ordered(1, 1, 1);
         b.ordered(0, 1, 0);
+    }
+
+    /** Whichever was first, none is SELECTED beside it, and it stays so for the TICKS that it had. */
+    private static void oneAtMostIsSelected() {
+        int[][] orders = {rest(45, 6, 5, 30, 1 | SELECT), rest(46, 6, 5, 31, 2 | SELECT),
+            rest(49, 6, 5, 32, 1, 2, SELECT)};
+        for (int first = 0; first < 3; first++) {
+            for (int second = 0; second < 3; second++) {
+                Bench b = station(first + " is SELECTED, then " + second);
+                selected(b, orders[first]);
+                b.tick(7, 2);
+                denied(b, orders[second]);
+                for (int command = 0; command < 3; command++) {
+                    b.ordered(3 + command, 0, command == first ? 1 : 0);
+                    b.ordered(3 + command, 1, command == first ? 293 : 0);
+                }
+            }
+        }
     }
 
     /** 1 is the state, 2 must be 0, 128 SELECTS, which this one must not be; the others are of no matter. */

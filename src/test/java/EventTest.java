@@ -8,6 +8,7 @@ public final class EventTest {
         valueOfThen();
         countersMakeNoEvents();
         fullWith40();
+        fullOnlyForWhatWouldChange();
         orderBehindBreak();
         moreThan40BehindBreak();
         acknowledgedAreNotSentAgain();
@@ -168,6 +169,32 @@ public final class EventTest {
         b.count(8, 28);
         b.change(0, 41, 0, 1);
         b.count(8, 29);
+    }
+
+    private static void fullOnlyForWhatWouldChange() {
+        Bench b = new Bench("FULL");
+        b.point(4, 5, 0, false, 0);
+        b.point(6, 6, 0, false, 1);
+        b.point(0, 7, 0, false, 2);
+        for (int i = 1; i <= 39; i++) {
+            b.change(0, i, 0, 1);
+        }
+        b.change(2, 1, 0, 1);
+        b.count(8, 40);
+        b.change(0, 38, 0, -3);
+        b.change(0, 39, 1, -3);
+        b.change(0, 39, 0, 0);
+        b.change(2, 0, 0, -3);
+        b.change(2, 1, 16, -3);
+        b.change(2, 1, 0, 0);
+        b.change(1, 1, 0, 1);
+        b.change(1, 1, 16, 1);
+        b.change(1, 1, 16, 0);
+        b.told(0, 4, 39);
+        b.told(0, 5, 0);
+        b.told(2, 4, 1);
+        b.told(2, 5, 0);
+        b.count(8, 40);
     }
 
     private static void orderBehindBreak() {

@@ -23,17 +23,6 @@ public final class FaultTest {
         Bench.finish();
     }
 
-    private static Bench station(String name) {
-        Bench b = new Bench(name);
-        b.point(0, 5, 1, false, 0);
-        b.point(6, 6, 1, false, 1);
-        b.command(0, 7, 0, false, 0);
-        b.command(1, 8, -1, false, 1);
-        b.command(2, 9, -1, false, 2);
-        b.started();
-        return b;
-    }
-
     /** A rest without a fault, of this length all the same. */
     private static int[] rest(int type, int length) {
         int[] addresses = {7, 8, 9, 0, 0, 5, 0, 0};
@@ -52,12 +41,12 @@ public final class FaultTest {
 
     private static void shorterThanNineBytes() {
         for (int type : TYPES) {
-            Bench b = station("shorter than 9 bytes, TYPE " + type);
+            Bench b = Bench.withCommands("shorter than 9 bytes, TYPE " + type);
             for (int length = 0; length < 9; length++) {
                 b.passedBy(rest(type, length));
             }
         }
-        Bench b = station("a TYPE that is not told, of 8 bytes and of 9");
+        Bench b = Bench.withCommands("a TYPE that is not told, of 8 bytes and of 9");
         b.passedBy(200, 0, 0, 0, 0, 0, 0, 0);
         b.same(44 | DENIED, 200, 0, 0, 0, 0, 0, 0, 0, 0);
     }
@@ -65,10 +54,10 @@ public final class FaultTest {
     private static void typesNotTold() {
         for (int type = 0; type < 256; type++) {
             if (placeOf(type) < 0) {
-                station("TYPE " + type).same(44 | DENIED, type, 1, 6, 3, 1, 0, 0, 0, 0, 20);
-                station("TYPE " + type + " with T").same(44 | DENIED | T, type, 9, T, 3, 4, 5, 6, 7, 8);
+                Bench.withCommands("TYPE " + type).same(44 | DENIED, type, 1, 6, 3, 1, 0, 0, 0, 0, 20);
+                Bench.withCommands("TYPE " + type + " with T").same(44 | DENIED | T, type, 9, T, 3, 4, 5, 6, 7, 8);
             } else {
-                Bench b = station("TYPE " + type);
+                Bench b = Bench.withCommands("TYPE " + type);
                 b.i(rest(type, LENGTHS[placeOf(type)]));
                 b.due("an ANSWER other than 44", b.read(3) > 0 && b.station.out(8) != (44 | DENIED));
             }
@@ -78,7 +67,7 @@ public final class FaultTest {
     private static void causesNotTold() {
         for (int type : TYPES) {
             for (int cause = 0; cause < 64; cause++) {
-                Bench b = station("CAUSE " + cause + " of " + type);
+                Bench b = Bench.withCommands("CAUSE " + cause + " of " + type);
                 boolean told = type == 102 ? cause == 5 : cause == 6 || cause == 8 && type <= 100;
                 if (told) {
                     b.passedBy(type, 2, cause, 3, 1, 0, 0, 0, 0);
@@ -113,7 +102,7 @@ public final class FaultTest {
 
     private static void everyStation() {
         for (int type : TYPES) {
-            Bench b = station("65535, TYPE " + type);
+            Bench b = Bench.withCommands("65535, TYPE " + type);
             int[] asked = rest(type, LENGTHS[placeOf(type)]);
             asked[4] = 255;
             asked[5] = 255;
@@ -124,7 +113,7 @@ public final class FaultTest {
                 b.due("it is answered, but not by 46", b.read(3) > 0 && b.station.out(8) != (46 | DENIED));
             }
         }
-        Bench b = station("the station in ANSWERS");
+        Bench b = Bench.withCommands("the station in ANSWERS");
         b.same(7, 104, 1, 6, 3, 255, 255, 0, 0, 0, 170, 85);
         b.i(102, 1, 5, 3, 255, 255, 5, 0, 0);
         b.outIs(Bench.data(1, 2, 1, 1, 5, 3, 1, 0, 5, 0, 0, 0));
@@ -132,7 +121,7 @@ public final class FaultTest {
 
     private static void lengthsNotAsTold() {
         for (int type : TYPES) {
-            Bench b = station("lengths of " + type);
+            Bench b = Bench.withCommands("lengths of " + type);
             for (int length : new int[] {9, 10, 11, 12, 13, 15, 16, 17, 249}) {
                 if (length != LENGTHS[placeOf(type)]) {
                     b.passedBy(rest(type, length));
@@ -145,7 +134,7 @@ public final class FaultTest {
 
     private static void secondByte() {
         for (int type : TYPES) {
-            Bench b = station("the second byte of " + type);
+            Bench b = Bench.withCommands("the second byte of " + type);
             int[] asked = rest(type, LENGTHS[placeOf(type)]);
             for (int second : new int[] {0, 2, 3, 127, 128, 129, 255}) {
                 asked[1] = second;
@@ -167,7 +156,7 @@ public final class FaultTest {
                     if (address == own) {
                         continue;
                     }
-                    Bench b = station("ADDRESS " + address + " of " + type);
+                    Bench b = Bench.withCommands("ADDRESS " + address + " of " + type);
                     int[] asked = rest(type, LENGTHS[place]);
                     asked[2] = cause;
                     setAddress(asked, address);
@@ -188,7 +177,7 @@ public final class FaultTest {
     /** Of none, and of a COMMAND. */
     private static void addressesOfNoPoint() {
         for (int address : new int[] {0, 4, 7, 8, 9, 5 + 256, 5 + 65536, 16777215}) {
-            Bench b = station("ADDRESS " + address + " of 102");
+            Bench b = Bench.withCommands("ADDRESS " + address + " of 102");
             int[] asked = rest(102, 9);
             setAddress(asked, address);
             b.same(47 | DENIED, asked);
@@ -200,7 +189,7 @@ public final class FaultTest {
     private static void addressesNotZero() {
         for (int type : new int[] {100, 101, 103, 104}) {
             for (int address : new int[] {1, 5, 7, 256, 65536, 16777215}) {
-                Bench b = station("ADDRESS " + address + " of " + type);
+                Bench b = Bench.withCommands("ADDRESS " + address + " of " + type);
                 int[] asked = rest(type, LENGTHS[placeOf(type)]);
                 setAddress(asked, address);
                 b.same(47 | DENIED, asked);
@@ -210,7 +199,7 @@ public final class FaultTest {
     }
 
     private static void theFirstFaultCounts() {
-        Bench b = station("the first fault");
+        Bench b = Bench.withCommands("the first fault");
         b.same(44 | DENIED, 200, 2, 60, 3, 9, 9, 9, 9, 9);
         b.same(45 | DENIED, 100, 2, 60, 3, 9, 9, 9, 9, 9);
         b.same(46 | DENIED, 100, 2, 6, 3, 9, 9, 9, 9, 9);
@@ -223,7 +212,7 @@ public final class FaultTest {
 
     /** It is carried out all the same, and not in the ANSWERS. */
     private static void thatDeniedCameIsOfNoMatter() {
-        Bench b = station("64 came");
+        Bench b = Bench.withCommands("64 came");
         b.same(7, 104, 1, 6 | DENIED, 3, 1, 0, 0, 0, 0, 170, 85);
         b.same(7 | T, 104, 1, 6 | DENIED | T, 3, 1, 0, 0, 0, 0, 170, 85);
         b.same(45 | DENIED, 104, 1, 5 | DENIED, 3, 1, 0, 0, 0, 0, 170, 85);
@@ -237,7 +226,7 @@ public final class FaultTest {
     }
 
     private static void passedByEver() {
-        Bench b = station("PASSED BY, ever");
+        Bench b = Bench.withCommands("PASSED BY, ever");
         b.passedBy();
         b.passedBy(100, 2, 6, 3, 1, 0, 0, 0, 0, 20);
         b.close(1);

@@ -72,6 +72,11 @@ public final class FuzzTest {
             station.set(1, 1 + random.nextInt(12));
             station.set(2, 1 + random.nextInt(12));
         }
+        if (random.nextBoolean()) {
+            for (int timer = 3; timer <= 6; timer++) {
+                station.set(timer, 1 + random.nextInt(60));
+            }
+        }
         int points = random.nextInt(25);
         for (int i = 0; i < points; i++) {
             station.point(random.nextInt(7), 1 + random.nextInt(60), random.nextInt(4), random.nextBoolean());
@@ -147,7 +152,7 @@ public final class FuzzTest {
         int point = points == 0 ? 0 : refusals.nextInt(points);
         boolean isFull = points > 0 && station.count(8) >= 40 && station.told(point, 0) != 6;
         int quality = isFull ? station.told(point, 5) ^ 16 : 32;
-        return station.change(point, station.told(point, 4), quality);
+        return station.change(point, station.told(point, 4) ^ 1, quality);
     }
 
     private int edge() {

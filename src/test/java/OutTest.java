@@ -254,5 +254,16 @@ public final class OutTest {
         b.take(4090, 6);
         b.u(Bench.TEST);
         b.outIs(Bench.frameOf(Bench.TEST_ANSWER), Bench.frameOf(Bench.TEST_ANSWER));
+        Bench c = filled("full, six bytes go, and full again", 6);
+        c.u(Bench.TEST);
+        c.take(6, 4090);
+        c.u(Bench.TEST);
+        c.count(2, 4096);
+        c.out(4086, 131);
+        c.out(4092, 131);
+        c.take(5, 4091);
+        c.bytes(0, Bench.frameOf(Bench.TEST));
+        c.closedBy(6);
+        c.count(2, 4091);
     }
 }

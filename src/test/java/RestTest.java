@@ -24,23 +24,13 @@ public final class RestTest {
         ordersOfCounters();
         countersWithT();
         readings();
+        readingWithBytesBehind();
         readingsWithT();
         clocks();
         timesOfDay();
         days();
         tests();
         Bench.finish();
-    }
-
-    private static Bench station(String name) {
-        Bench b = new Bench(name);
-        b.point(0, 5, 1, false, 0);
-        b.point(6, 6, 1, false, 1);
-        b.command(0, 7, 0, false, 0);
-        b.command(1, 8, -1, false, 1);
-        b.command(2, 9, -1, false, 2);
-        b.started();
-        return b;
     }
 
     private static void interrogationOfAll() {
@@ -107,7 +97,7 @@ public final class RestTest {
     }
 
     private static void interrogationWithT() {
-        Bench b = station("100 with T");
+        Bench b = Bench.withCommands("100 with T");
         b.i(100, 1, 6 | T, 9, 1, 0, 0, 0, 0, 20);
         b.outIs(Bench.data(0, 1, 100, 1, 7 | T, 9, 1, 0, 0, 0, 0, 20),
             Bench.data(1, 1, 100, 1, 10 | T, 9, 1, 0, 0, 0, 0, 20));
@@ -215,8 +205,21 @@ public final class RestTest {
         }
     }
 
+    private static void readingWithBytesBehind() {
+        for (int behind = 0; behind <= 3; behind++) {
+            Bench b = Bench.withCommands("102 with " + behind + " bytes behind");
+            int[] rest = Bench.join(new int[] {102, 1, 5, 9, 1, 0, 5, 0, 0}, new int[behind]);
+            if (behind > 0) {
+                b.passedBy(rest);
+            } else {
+                b.i(rest);
+                b.outIs(Bench.data(0, 1, 1, 1, 5, 9, 1, 0, 5, 0, 0, 0));
+            }
+        }
+    }
+
     private static void readingsWithT() {
-        Bench b = station("102 with T");
+        Bench b = Bench.withCommands("102 with T");
         b.i(102, 1, 5 | T, 3, 1, 0, 5, 0, 0);
         b.count(7, 0);
         b.count(3, 0);
@@ -225,7 +228,7 @@ public final class RestTest {
     }
 
     private static void clocks() {
-        Bench b = station("103");
+        Bench b = Bench.withCommands("103");
         b.clock(6, 0);
         b.i(103, 1, 6 | T, 3, 1, 0, 0, 0, 0, 1, 2, 3, 4, 5, 6, 7);
         b.clockIs(0, 0, 0, 1, 1, 0, 0);
@@ -309,7 +312,7 @@ public final class RestTest {
 
     private static void interrogationDenied() {
         for (int q = 0; q < 256; q++) {
-            Bench b = station("100, q " + q);
+            Bench b = Bench.withCommands("100, q " + q);
             if (q < 20 || q > 36) {
                 b.same(7 | DENIED, 100, 1, 6, 3, 1, 0, 0, 0, 0, q);
                 b.same(7 | DENIED | T, 100, 1, 6 | T, 3, 1, 0, 0, 0, 0, q);
@@ -322,7 +325,7 @@ public final class RestTest {
 
     private static void interrogationEnded() {
         for (int q = 19; q <= 37; q++) {
-            Bench b = station("100, CAUSE 8, q " + q);
+            Bench b = Bench.withCommands("100, CAUSE 8, q " + q);
             b.same(9 | DENIED, 100, 1, 8, 3, 1, 0, 0, 0, 0, q);
             b.same(9 | DENIED | T, 100, 1, 8 | T, 3, 1, 0, 0, 0, 0, q);
         }
@@ -356,7 +359,7 @@ public final class RestTest {
     private static void countersDenied() {
         for (int asked = 0; asked < 256; asked++) {
             if ((asked & 63) != 5) {
-                Bench b = station("101 by " + asked);
+                Bench b = Bench.withCommands("101 by " + asked);
                 b.change(1, 7, 0, 1);
                 b.same(7 | DENIED, 101, 1, 6, 3, 1, 0, 0, 0, 0, asked);
                 b.same(7 | DENIED | T, 101, 1, 6 | T, 3, 1, 0, 0, 0, 0, asked);
@@ -394,7 +397,7 @@ public final class RestTest {
 
     /** Sets the clock by these seven bytes: it becomes that, or 7 is denied and it stays. */
     private static void timeCame(boolean isTime, int... time) {
-        Bench b = station("103 " + Arrays.toString(time));
+        Bench b = Bench.withCommands("103 " + Arrays.toString(time));
         b.same(isTime ? 7 : 7 | DENIED, Bench.join(new int[] {103, 1, 6, 3, 1, 0, 0, 0, 0}, time));
         if (isTime) {
             b.clockIs(time[0] + 256 * time[1], time[2], time[3], time[4], time[5], time[6], 1);
@@ -432,13 +435,13 @@ public final class RestTest {
     }
 
     private static void tests() {
-        Bench b = station("104");
+        Bench b = Bench.withCommands("104");
         b.same(7, 104, 1, 6, 3, 1, 0, 0, 0, 0, 170, 85);
         b.same(7 | T, 104, 1, 6 | T, 3, 1, 0, 0, 0, 0, 170, 85);
         b.same(7 | DENIED, 104, 1, 6, 3, 1, 0, 0, 0, 0, 85, 170);
         b.same(7 | DENIED | T, 104, 1, 6 | T, 3, 1, 0, 0, 0, 0, 85, 170);
         for (int bit = 1; bit < 256; bit *= 2) {
-            Bench c = station("104 with another bit " + bit);
+            Bench c = Bench.withCommands("104 with another bit " + bit);
             c.same(7 | DENIED, 104, 1, 6, 3, 1, 0, 0, 0, 0, 170 ^ bit, 85);
             c.same(7 | DENIED, 104, 1, 6, 3, 1, 0, 0, 0, 0, 170, 85 ^ bit);
         }

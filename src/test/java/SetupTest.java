@@ -15,6 +15,7 @@ public final class SetupTest {
         timerBounds();
         noSuchSetting();
         settingsOnlyWhenClosed();
+        theFirstThatFits();
         pointSorts();
         pointGroups();
         pointAddresses();
@@ -158,6 +159,33 @@ public final class SetupTest {
                 b.set(what, 9, FIRST[what]);
             }
         }
+    }
+
+    /** BAD ahead of STATE and of FULL, in each call that has both. */
+    private static void theFirstThatFits() {
+        Bench b = new Bench("BAD ahead of FULL");
+        for (int i = 0; i < 24; i++) {
+            b.point(4, 1 + i, 0, false, i);
+        }
+        for (int i = 0; i < 12; i++) {
+            b.command(0, 101 + i, -1, false, i);
+        }
+        for (int i = 1; i <= 40; i++) {
+            b.change(0, i, 0, 1);
+        }
+        b.point(4, 24, 0, false, -1);
+        b.point(4, 25, 0, false, -3);
+        b.command(0, 112, -1, false, -1);
+        b.command(0, 113, -1, false, -3);
+        b.change(0, 32768, 0, -1);
+        b.change(0, 41, 32, -1);
+        b.change(24, 41, 0, -1);
+        b.change(0, 41, 0, -3);
+        b.come(9, 0, -1);
+        b.come(8, 0, -2);
+        b.open(1);
+        b.set(1, 13, -1);
+        b.set(1, 12, -2);
     }
 
     private static void pointSorts() {

@@ -129,6 +129,11 @@ public final class TimerTest {
         b.outIs(Bench.frameOf(Bench.START_ANSWER), Bench.data(0, 4, 1, 1, 3, 0, 1, 0, 5, 0, 0, 1));
         b.tick(6, 2);
         b.count(2, 0);
+        b.i();
+        b.tick(4, 2);
+        b.count(2, 0);
+        b.tick(1, 2);
+        b.outIs(Bench.ackOf(5));
         Bench c = withEvents("T2 when it is STOPPED");
         c.started();
         c.change(0, 1, 0, 1);
