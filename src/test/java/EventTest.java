@@ -319,5 +319,12 @@ public final class EventTest {
         b.started();
         b.change(0, 1, 0, 1);
         b.outIs(Bench.data(0, 0, 1, 1, 3, 0, 254, 255, 5, 0, 0, 1));
+        Bench c = new Bench("the station as it is when an EVENT is sent");
+        c.point(0, 5, 0, false, 0);
+        c.change(0, 1, 0, 1);
+        c.set(0, 0, 1);
+        c.open(1);
+        c.u(Bench.START);
+        c.outIs(Bench.frameOf(Bench.START_ANSWER), Bench.data(0, 0, 1, 1, 3, 0, 0, 0, 5, 0, 0, 1));
     }
 }
